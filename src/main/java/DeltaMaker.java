@@ -206,6 +206,19 @@ public final class DeltaMaker {
             addFrom(other, 0, other.count());
         }
 
+        /** How many bytes from i on are the same as those of another row from j on. */
+        int sameFrom(int i, Row other, int j) {
+            if (i < 0 || j < 0) {
+                return 0;
+            }
+            int most = Math.min(count - i, other.count - j);
+            int same = 0;
+            while (same < most && cells[i + same] == other.cells[j + same]) {
+                same++;
+            }
+            return same;
+        }
+
         void addVarint(int v) {
             int rest = v;
             for (int k = 1; k < VARINT_MOST && rest > 127; k++) {
@@ -286,7 +299,9 @@ public final class DeltaMaker {
 
         /** Whether STEP i writes any byte that the COPY takes. */
         boolean writesWhereTakes(int i, int copy) {
-            return place(i) < source(copy) + length(copy) && source(copy) < place(i) + length(i);
+            return has(i) && has(copy)
+                && places[i] < sources[copy] + lengths[copy]
+                && sources[copy] < places[i] + lengths[i];
         }
 
         void layOut(Row first, Row second) {
@@ -296,7 +311,7 @@ public final class DeltaMaker {
             int p = 0;
             for (int turn = 0; turn < STEPS_MOST && p < goal.count(); turn++) {
                 int q = placeOfLongestRun(p);
-                int run = runLength(p, q);
+                int run = goal.sameFrom(p, base, q);
                 if (run >= COPY_LEAST) {
                     append(p, run, q);
                     p += run;
@@ -312,22 +327,13 @@ public final class DeltaMaker {
             int best = 0;
             // Nearer to the end than this no longer run has room.
             for (int q = 0; q < base.count() - longest; q++) {
-                int run = runLength(p, q);
+                int run = goal.sameFrom(p, base, q);
                 if (run > longest) {
                     longest = run;
                     best = q;
                 }
             }
             return best;
-        }
-
-        private int runLength(int p, int q) {
-            int most = Math.min(goal.count() - p, base.count() - q);
-            int run = 0;
-            while (run < most && goal.at(p + run) == base.at(q + run)) {
-                run++;
-            }
-            return run;
         }
 
         private void addByte(int p) {
@@ -653,8 +659,10 @@ public final class DeltaMaker {
 
         /** Brings the bytes of STEP i to its place, from a row in which they lie at start. */
         private void move(Row from, int start, Row to, int i) {
-            for (int k = 0; k < plan.length(i); k++) {
-                to.put(plan.place(i) + k, from.at(start + k));
+            int place = plan.place(i);
+            int length = plan.length(i);
+            for (int k = 0; k < length; k++) {
+                to.put(place + k, from.at(start + k));
             }
         }
     }
