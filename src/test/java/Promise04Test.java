@@ -92,6 +92,12 @@ public final class Promise04Test {
         // 2 * 136 + 1 = 273, 2 * 64 = 128; 2 * 64 + 1 = 129, 2 * 200 - 1 = 399
         new int[] {145, 2, 128, 1, 129, 1, 143, 3});
     made(x, 2, due);
+
+    // The largest number of one byte, and the least one of two.
+    x = Due.with(Due.times(127, 1), new int[0]);
+    made(x, 0, Due.join(new int[] {127, 0}, word(x.check(0)), new int[4]));
+    x = Due.with(Due.times(128, 1), new int[0]);
+    made(x, 0, Due.join(new int[] {128, 1, 0}, word(x.check(0)), new int[4]));
   }
 
   private static void theLargestRows() {
