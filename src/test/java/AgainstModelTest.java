@@ -1,6 +1,10 @@
 import java.util.Random;
 
-/** Runs of calls, the same every time, on the class and on the model: every answer is compared. */
+/**
+ * Runs of calls, the same every time, on the class and on the model: every answer is compared. They
+ * go beyond the 512 calls that the document promises, to see more of each state: the class does not
+ * count its calls.
+ */
 public final class AgainstModelTest {
   private static final int RUNS = 3000;
   private final Random random;
@@ -90,7 +94,7 @@ public final class AgainstModelTest {
     int[] front = java.util.Arrays.copyOf(bytes, place);
     int[] back = java.util.Arrays.copyOfRange(bytes, Math.min(n, kind == 0 ? place : place + 1), n);
     int[] strange = {new int[] {0, 1, 127, 128, 255, random.nextInt(256)}[random.nextInt(6)]};
-    give(2, kind == 1 ? front : kind == 2 ? Due.join(front, back) : Due.join(front, strange, back));
+    give(2, kind == 1 ? front : kind == 2 ? Bytes.join(front, back) : Bytes.join(front, strange, back));
     if (random.nextInt(3) == 0) {
       m.make();
       x.make();

@@ -38,6 +38,6 @@ public final class Promise01Test {
       Due.row(y, what);
     }
     Due.is("steps()", y.steps(), 0);
-    Due.row(x, 3, Due.text("abcdxf"));
+    Due.row(x, 3, Bytes.text("abcdxf"));
   }
 }

@@ -31,7 +31,7 @@ public final class Promise02Test {
       for (int k = 0; k < n; k++) {
         part[k] = 0xF8 - n + 1 + k;
       }
-      due = Due.join(due, part);
+      due = Bytes.join(due, part);
     }
     Due.is("take(0)", x.take(0), true);
     Due.row(x, 0, due);
@@ -48,12 +48,12 @@ public final class Promise02Test {
 
   private static void theTapeTakes900Bytes() {
     DeltaMaker x = new DeltaMaker();
-    Due.feed(x, Due.times(896, 7));
+    Due.feed(x, Bytes.times(896, 7));
     Due.is("feed(5 where 4 have room)", x.feed(9, 5), false);
     Due.is("feed(4 where 4 have room)", x.feed(9, 4), true);
     Due.is("feed(1 where none has room)", x.feed(1, 1), false);
     Due.is("take(2)", x.take(2), true);
-    Due.row(x, 2, Due.join(Due.times(896, 7), new int[] {0, 0, 0, 9}));
+    Due.row(x, 2, Bytes.join(Bytes.times(896, 7), new int[] {0, 0, 0, 9}));
     Due.is("feed after take", x.feed(5, 8), true);
   }
 

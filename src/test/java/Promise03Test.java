@@ -32,17 +32,17 @@ public final class Promise03Test {
 
   private static void tooManyBytesAreRefused() {
     DeltaMaker x = new DeltaMaker();
-    Due.take(x, 0, Due.times(300, 1));
-    Due.take(x, 1, Due.times(300, 2));
-    Due.feed(x, Due.times(301, 3));
+    Due.take(x, 0, Bytes.times(300, 1));
+    Due.take(x, 1, Bytes.times(300, 2));
+    Due.feed(x, Bytes.times(301, 3));
     Due.is("take(0) of 301", x.take(0), false);
     Due.is("take(1) of 301", x.take(1), false);
-    Due.row(x, 0, Due.times(300, 1));
-    Due.row(x, 1, Due.times(300, 2));
+    Due.row(x, 0, Bytes.times(300, 1));
+    Due.row(x, 1, Bytes.times(300, 2));
     Due.is("take(2) of 301", x.take(2), true);
-    Due.row(x, 2, Due.times(301, 3));
-    Due.take(x, 2, Due.times(900, 4));
-    Due.row(x, 2, Due.times(900, 4));
+    Due.row(x, 2, Bytes.times(301, 3));
+    Due.take(x, 2, Bytes.times(900, 4));
+    Due.row(x, 2, Bytes.times(900, 4));
   }
 
   private static void otherNamesAreRefused() {
@@ -65,8 +65,8 @@ public final class Promise03Test {
     Due.take(x, 0, 1);
     Due.take(x, 1, 2);
     Due.take(x, 2, 3);
-    Due.row(x, 3, Due.text("efghabcd"));
-    Due.row(x, 4, Due.text("efghabcd"));
+    Due.row(x, 3, Bytes.text("efghabcd"));
+    Due.row(x, 4, Bytes.text("efghabcd"));
     Due.is("steps()", x.steps(), 2);
     Due.step(x, 0, 1, 0, 4, 4, 1, 1);
   }

@@ -29,14 +29,14 @@ public final class Promise05Test {
   }
 
   private static void bytesAreNeverBelowZero() {
-    DeltaMaker x = Due.with(Due.times(5, 255), Due.times(5, 128));
-    Due.row(x, 0, Due.times(5, 255));
-    Due.row(x, 1, Due.times(5, 128));
+    DeltaMaker x = Due.with(Bytes.times(5, 255), Bytes.times(5, 128));
+    Due.row(x, 0, Bytes.times(5, 255));
+    Due.row(x, 1, Bytes.times(5, 128));
     x.make();
     x.apply();
     x.inPlace();
-    Due.row(x, 3, Due.times(5, 128));
-    Due.row(x, 4, Due.times(5, 128));
+    Due.row(x, 3, Bytes.times(5, 128));
+    Due.row(x, 4, Bytes.times(5, 128));
   }
 
   private static void whatLayBehindAShorterRowIsGone() {

@@ -19,8 +19,8 @@ public final class Promise06Test {
     x.inPlace();
     sizes(x, 1, 3, 14, 0, 3);
 
-    x = Due.with(Due.times(300, 1), Due.times(300, 2));
-    Due.take(x, 2, Due.times(900, 3));
+    x = Due.with(Bytes.times(300, 1), Bytes.times(300, 2));
+    Due.take(x, 2, Bytes.times(900, 3));
     sizes(x, 300, 300, 900, 0, 0);
     for (int what : new int[] {-1, 5, 6, Integer.MIN_VALUE, Integer.MAX_VALUE}) {
       Due.is("size(" + what + ")", x.size(what), -1);

@@ -8,7 +8,7 @@ public final class Promise07Test {
     x.apply();
     x.inPlace();
     Due.is("steps() after inPlace", x.steps(), 3);
-    Due.take(x, 1, Due.text("abcd"));
+    Due.take(x, 1, Bytes.text("abcd"));
     Due.take(x, 2, 0);
     Due.is("steps() after take", x.steps(), 3);
     x.make();
@@ -16,7 +16,7 @@ public final class Promise07Test {
     Due.take(x, 1);
     x.make();
     Due.is("steps() of nothing", x.steps(), 0);
-    Due.take(x, 1, Due.times(300, 255));
+    Due.take(x, 1, Bytes.times(300, 255));
     x.make();
     Due.is("steps() of 300 added bytes", x.steps(), 8);
     Due.end();

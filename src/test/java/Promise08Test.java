@@ -40,7 +40,7 @@ public final class Promise08Test {
     x.make();
     Due.placed(x, 0, 0, -1);
     Due.placed(x, 1, 0, -1);
-    Due.take(x, 1, Due.text("abcd!efgh"));
+    Due.take(x, 1, Bytes.text("abcd!efgh"));
     x.make();
     Due.placed(x, 0, 0, -1);
     Due.placed(x, 1, 0, -1);

@@ -19,7 +19,7 @@ public final class Promise10Test {
     DeltaMaker x = Due.with(first, second);
     x.make();
     Due.is("inPlace() of " + first + " to " + second, x.inPlace(), aside);
-    Due.row(x, 4, Due.text(second));
+    Due.row(x, 4, Bytes.text(second));
     return x;
   }
 
@@ -97,18 +97,18 @@ public final class Promise10Test {
   private static void theRowsAreThoseOfMake() {
     DeltaMaker x = Due.with("abcdefgh", "efgh#abcd");
     x.make();
-    Due.take(x, 0, Due.text("x"));
-    Due.take(x, 1, Due.text("something else, and longer"));
+    Due.take(x, 0, Bytes.text("x"));
+    Due.take(x, 1, Bytes.text("something else, and longer"));
     Due.take(x, 2, 1);
     Due.is("inPlace()", x.inPlace(), 4);
-    Due.row(x, 4, Due.text("efgh#abcd"));
+    Due.row(x, 4, Bytes.text("efgh#abcd"));
     Due.is("inPlace() again", x.inPlace(), 4);
-    Due.row(x, 4, Due.text("efgh#abcd"));
+    Due.row(x, 4, Bytes.text("efgh#abcd"));
     Due.row(x, 0, 'x');
     x.make();
-    Due.row(x, 4, Due.text("efgh#abcd"));
+    Due.row(x, 4, Bytes.text("efgh#abcd"));
     Due.is("inPlace()", x.inPlace(), 0);
-    Due.row(x, 4, Due.text("something else, and longer"));
+    Due.row(x, 4, Bytes.text("something else, and longer"));
   }
 
   private static void theLargestRows() {
@@ -116,7 +116,7 @@ public final class Promise10Test {
     for (int i = 0; i < 300; i++) {
       up[i] = i * 7 % 256 ^ i / 256;
     }
-    int[] turned = Due.join(java.util.Arrays.copyOfRange(up, 150, 300), java.util.Arrays.copyOf(up, 150));
+    int[] turned = Bytes.join(java.util.Arrays.copyOfRange(up, 150, 300), java.util.Arrays.copyOf(up, 150));
     DeltaMaker x = Due.with(up, turned);
     x.make();
     Due.is("inPlace()", x.inPlace(), 150);

@@ -32,9 +32,9 @@ public final class Promise11Test {
     x.inPlace();
     Due.is("check(4)", x.check(4), second);
     Due.is("they differ", first != second && x.check(2) != 0, true);
-    Due.take(x, 2, Due.text("other row"));
+    Due.take(x, 2, Bytes.text("other row"));
     Due.is("check(2)", x.check(2), second);
-    Due.take(x, 1, Due.text("first row"));
+    Due.take(x, 1, Bytes.text("first row"));
     Due.is("check(1)", x.check(1), first);
     x.apply();
     Due.is("check(3) of a wrong one", x.check(3), 0);

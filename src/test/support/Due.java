@@ -18,25 +18,6 @@ final class Due {
     is(call, got ? 1L : 0L, want ? 1L : 0L);
   }
 
-  /** Bytes out of a text of characters 0 to 255. */
-  static int[] text(String s) {
-    int[] bytes = new int[s.length()];
-    for (int i = 0; i < bytes.length; i++) {
-      bytes[i] = s.charAt(i);
-    }
-    return bytes;
-  }
-
-  static int[] times(int n, int b) {
-    int[] bytes = new int[n];
-    java.util.Arrays.fill(bytes, b);
-    return bytes;
-  }
-
-  static int[] join(int[]... parts) {
-    return java.util.Arrays.stream(parts).flatMapToInt(java.util.Arrays::stream).toArray();
-  }
-
   static void feed(DeltaMaker x, int... bytes) {
     int at = 0;
     while (at < bytes.length) {
@@ -63,7 +44,7 @@ final class Due {
   }
 
   static DeltaMaker with(String first, String second) {
-    return with(text(first), text(second));
+    return with(Bytes.text(first), Bytes.text(second));
   }
 
   static void row(DeltaMaker x, int what, int... bytes) {

@@ -50,6 +50,13 @@ final class Model {
     return true;
   }
 
+  void give(int what, int... bytes) {
+    for (int b : bytes) {
+      feed(b, 1);
+    }
+    take(what);
+  }
+
   int byteAt(int what, int i) {
     return what < 0 || what > 4 || i < 0 || i >= rows.get(what).size() ? -1 : rows.get(what).get(i);
   }
